@@ -1,0 +1,174 @@
+/** Helpers of the tests: programs typed in from their texts, and checks that count what is wrong. */
+final class Keys {
+    private static int wrong = 0;
+
+    private final String text;
+    private final TermBench bench;
+    private int place = 0;
+
+    private Keys(TermBench bench, String text) {
+        this.bench = bench;
+        this.text = text;
+    }
+
+    static void is(String what, long got, long want) {
+        if (got != want) {
+            wrong++;
+            System.out.println(what + ": answered " + got + ", due is " + want);
+        }
+    }
+
+    static void is(String what, boolean got, boolean want) {
+        is(what, got ? 1 : 0, want ? 1 : 0);
+    }
+
+    static void is(String what, String got, String want) {
+        if (!got.equals(want)) {
+            wrong++;
+            System.out.println(what + ": answered " + got + ", due is " + want);
+        }
+    }
+
+    static void end() {
+        System.out.println(wrong == 0 ? "all answers are as due" : wrong + " answers are not as due");
+        if (wrong != 0) {
+            System.exit(1);
+        }
+    }
+
+    /** The whole text of the program. */
+    static String text(TermBench bench) {
+        StringBuilder all = new StringBuilder();
+        for (int k = 0; k < 1000; k++) {
+            long word = bench.text(k);
+            for (int i = 0; i < 8; i++) {
+                long sign = word >>> (8 * i) & 255;
+                if (sign == 0) {
+                    is("text behind the end", word >>> (8 * i), 0);
+                    return all.toString();
+                }
+                all.append((char) sign);
+            }
+        }
+        throw new IllegalStateException("a text without an end");
+    }
+
+    /** The long of a type written as in texts. */
+    static long type(String written) {
+        long type = 0;
+        int count = 0;
+        for (char sign : written.toCharArray()) {
+            if (sign != '>') {
+                type |= (long) (sign == '*' ? 1 : sign == '#' ? 2 : 3) << (2 * count);
+                count++;
+            }
+        }
+        return type;
+    }
+
+    /** A new object with a program of this text, the cursor on the program. */
+    static TermBench made(String text) {
+        TermBench bench = new TermBench();
+        enter(bench, text);
+        while (bench.up()) {
+            continue;
+        }
+        is("made", text(bench), text);
+        return bench;
+    }
+
+    /** Types a term in at the HOLE at the cursor; the cursor ends on that term. */
+    static void enter(TermBench bench, String text) {
+        new Keys(bench, text).term();
+    }
+
+    /** The object with the cursor moved down from the program to part path[0], of that to part path[1] .. */
+    static TermBench at(TermBench bench, int... path) {
+        while (bench.up()) {
+            continue;
+        }
+        for (int part : path) {
+            is("down on the way", bench.down(part), true);
+        }
+        return bench;
+    }
+
+    private void term() {
+        char sign = text.charAt(place);
+        if (sign == '(') {
+            place++;
+            must(bench.sum(false));
+            toPart(0);
+            term();
+            skip('+');
+            toPart(1);
+            term();
+            skip(')');
+            must(bench.up());
+        } else if (sign == '[') {
+            int name = text.charAt(place + 1) - 'a';
+            place += 3;
+            must(bench.function(name, type(writtenType())));
+            term();
+            skip(']');
+            must(bench.up());
+        } else if (sign == '{') {
+            place++;
+            term();
+            skip(':');
+            must(bench.claim(type(writtenType())));
+            skip('}');
+            must(bench.up());
+        } else {
+            leaf(sign);
+        }
+        while (place < text.length() && text.charAt(place) == '(') {
+            place++;
+            must(bench.call(false));
+            term();
+            skip(')');
+            must(bench.up());
+        }
+    }
+
+    private void leaf(char sign) {
+        place++;
+        if (sign >= 'a' && sign <= 'j') {
+            must(bench.name(sign - 'a'));
+        } else if (sign != '?') {
+            int begin = place - 1;
+            while (place < text.length() && Character.isDigit(text.charAt(place))) {
+                place++;
+            }
+            must(bench.number(Integer.parseInt(text.substring(begin, place))));
+        }
+    }
+
+    private String writtenType() {
+        int begin = place;
+        int open = 0;
+        do {
+            char sign = text.charAt(place++);
+            open += sign == '<' ? 1 : sign == '>' ? -1 : 0;
+        } while (open > 0);
+        return text.substring(begin, place);
+    }
+
+    private void toPart(int i) {
+        must(bench.up());
+        must(bench.down(i));
+    }
+
+    private void skip(char sign) {
+        if (text.charAt(place) != sign) {
+            throw new IllegalStateException("no " + sign + " at " + place + " of " + text);
+        }
+        place++;
+    }
+
+    private static void must(boolean done) {
+        if (!done) {
+            throw new IllegalStateException("a key was refused");
+        }
+    }
+}
