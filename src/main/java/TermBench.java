@@ -20,10 +20,9 @@ public final class TermBench {
     private final History history = new History();
     private final Typing typing = new Typing();
     private final Page page = new Page();
-    private final Machine machine = new Machine(typing.marks);
+    private final Machine machine = new Machine();
 
     public TermBench() {
-        settle();
     }
 
     public boolean number(int n) {
@@ -64,7 +63,6 @@ public final class TermBench {
             return false;
         }
         history.keep().empty();
-        settle();
         return true;
     }
 
@@ -73,24 +71,15 @@ public final class TermBench {
             return false;
         }
         history.keep().raise();
-        settle();
         return true;
     }
 
     public boolean undo() {
-        if (!history.stepBack()) {
-            return false;
-        }
-        settle();
-        return true;
+        return history.stepBack();
     }
 
     public boolean redo() {
-        if (!history.stepForth()) {
-            return false;
-        }
-        settle();
-        return true;
+        return history.stepForth();
     }
 
     public boolean up() {
@@ -104,15 +93,15 @@ public final class TermBench {
     }
 
     public boolean hole() {
-        return moveTo(page.nextHole(history.present()));
+        return moveTo(written().nextHole(history.present()));
     }
 
     public boolean click(int column) {
-        return moveTo(page.innermost(history.present(), column));
+        return moveTo(written().innermost(history.present(), column));
     }
 
     public int column() {
-        return page.begins[history.present().cursor];
+        return written().begins[history.present().cursor];
     }
 
     public int kind() {
@@ -121,19 +110,19 @@ public final class TermBench {
     }
 
     public int mark() {
-        return typing.marks[history.present().cursor];
+        return typed().marks[history.present().cursor];
     }
 
     public long got() {
-        return typing.gotTypes[history.present().cursor];
+        return typed().gotTypes[history.present().cursor];
     }
 
     public long expected() {
-        return typing.expectedTypes[history.present().cursor];
+        return typed().expectedTypes[history.present().cursor];
     }
 
     public int marks() {
-        return typing.countMarks(history.present().size);
+        return typed().countMarks(history.present().size);
     }
 
     public int terms() {
@@ -141,11 +130,11 @@ public final class TermBench {
     }
 
     public long text(int k) {
-        return page.eightOf(k);
+        return written().eightOf(k);
     }
 
     public int run() {
-        return machine.start(history.present());
+        return machine.start(history.present(), typed().marks);
     }
 
     public int result() {
@@ -165,7 +154,6 @@ public final class TermBench {
             return false;
         }
         history.keep().fill(kind, figure);
-        settle();
         return true;
     }
 
@@ -174,7 +162,6 @@ public final class TermBench {
             return false;
         }
         history.keep().join(kind, before);
-        settle();
         return true;
     }
 
@@ -183,7 +170,6 @@ public final class TermBench {
             return false;
         }
         history.keep().wrap(kind, figure, type);
-        settle();
         return true;
     }
 
@@ -195,11 +181,23 @@ public final class TermBench {
         return true;
     }
 
-    /** Typing and page do not depend on the cursor, so only a change of the program calls for this. */
-    private void settle() {
-        Program program = history.present();
-        typing.typeAll(program);
-        page.writeAll(program);
+    /** The typing of the present program: moves of the cursor leave it as it is. */
+    private Typing typed() {
+        if (typing.change != history.change) {
+            typing.change = history.change;
+            typing.typeTerm(history.present(), 0, NOTHING, 0);
+        }
+        return typing;
+    }
+
+    /** The page with the present program: moves of the cursor leave it as it is. */
+    private Page written() {
+        if (page.change != history.change) {
+            page.change = history.change;
+            page.clear();
+            page.writeTerm(history.present(), 0, 0);
+        }
+        return page;
     }
 
     /** Types as the document writes them: two bits a symbol, the first symbol lowest. */
@@ -416,6 +414,8 @@ public final class TermBench {
         int place = 0;
         int kept = 0;
         int putBy = 0;
+        /** Grows with each change of the present program, so that typing and page can tell their own age. */
+        int change = 0;
 
         History() {
             for (int i = 0; i < PLACES; i++) {
@@ -433,6 +433,7 @@ public final class TermBench {
             place = (place + 1) % PLACES;
             kept = Math.min(kept + 1, MAX_KEPT);
             putBy = 0;
+            change++;
             present().copy(before);
             return present();
         }
@@ -444,6 +445,7 @@ public final class TermBench {
             place = (place + PLACES - 1) % PLACES;
             kept--;
             putBy++;
+            change++;
             return true;
         }
 
@@ -454,6 +456,7 @@ public final class TermBench {
             place = (place + 1) % PLACES;
             kept++;
             putBy--;
+            change++;
             return true;
         }
     }
@@ -463,10 +466,7 @@ public final class TermBench {
         final long[] gotTypes = new long[MAX_TERMS];
         final long[] expectedTypes = new long[MAX_TERMS];
         final int[] marks = new int[MAX_TERMS];
-
-        void typeAll(Program program) {
-            typeTerm(program, 0, NOTHING, 0);
-        }
+        int change = NONE;
 
         int countMarks(int size) {
             int count = 0;
@@ -479,7 +479,7 @@ public final class TermBench {
         }
 
         /** Answers the type that the term has for what is around it. */
-        private long typeTerm(Program program, int at, long expected, int depth) {
+        long typeTerm(Program program, int at, long expected, int depth) {
             if (at < 0 || depth >= MAX_LEVELS) {
                 return ANY;
             }
@@ -557,11 +557,11 @@ public final class TermBench {
         final int[] begins = new int[MAX_TERMS];
         final int[] ends = new int[MAX_TERMS];
         int length = 0;
+        int change = NONE;
 
-        void writeAll(Program program) {
+        void clear() {
             Arrays.fill(words, 0L);
             length = 0;
-            writeTerm(program, 0, 0);
         }
 
         long eightOf(int k) {
@@ -591,7 +591,7 @@ public final class TermBench {
             return found;
         }
 
-        private void writeTerm(Program program, int at, int depth) {
+        void writeTerm(Program program, int at, int depth) {
             if (at < 0 || depth >= MAX_LEVELS) {
                 return;
             }
@@ -694,7 +694,6 @@ public final class TermBench {
         /** A CALL takes at least three units (its own, the called part's, the argument's) before it binds. */
         static final int MAX_BOUND = MAX_UNITS / 3;
 
-        final int[] marks;
         final int[] boundNames = new int[MAX_BOUND + 1];
         final long[] boundValues = new long[MAX_BOUND + 1];
         final int[] outerScopes = new int[MAX_BOUND + 1];
@@ -702,14 +701,10 @@ public final class TermBench {
         int units = 0;
         int number = 0;
 
-        Machine(int[] marks) {
-            this.marks = marks;
-        }
-
-        int start(Program program) {
+        int start(Program program, int[] marks) {
             bound = 0;
             units = 0;
-            long value = runTerm(program, 0, 0, 0);
+            long value = runTerm(program, marks, 0, 0, 0);
             number = outcome(value) == A_NUMBER ? content(value) : 0;
             return outcome(value);
         }
@@ -726,7 +721,7 @@ public final class TermBench {
             return (int) (value >> 2);
         }
 
-        private long runTerm(Program program, int at, int scope, int inside) {
+        private long runTerm(Program program, int[] marks, int at, int scope, int inside) {
             if (at < 0 || units >= MAX_UNITS || inside >= MAX_INSIDE) {
                 return value(SPENT, 0);
             }
@@ -740,24 +735,24 @@ public final class TermBench {
                 case NAME:
                     return standsFor(program.figures[at], scope);
                 case SUM:
-                    return runSum(program, at, scope, inside);
+                    return runSum(program, marks, at, scope, inside);
                 case CALL:
-                    return runCall(program, at, scope, inside);
+                    return runCall(program, marks, at, scope, inside);
                 case FUNCTION:
                     return value(A_FUNCTION, scope * MAX_TERMS + at);
                 case CLAIM:
-                    return runTerm(program, program.part(at, 0), scope, inside + 1);
+                    return runTerm(program, marks, program.part(at, 0), scope, inside + 1);
                 default:
                     return value(DARK, 0);
             }
         }
 
-        private long runSum(Program program, int at, int scope, int inside) {
-            long left = runTerm(program, program.part(at, 0), scope, inside + 1);
+        private long runSum(Program program, int[] marks, int at, int scope, int inside) {
+            long left = runTerm(program, marks, program.part(at, 0), scope, inside + 1);
             if (outcome(left) == SPENT) {
                 return left;
             }
-            long right = runTerm(program, program.part(at, 1), scope, inside + 1);
+            long right = runTerm(program, marks, program.part(at, 1), scope, inside + 1);
             if (outcome(right) == SPENT) {
                 return right;
             }
@@ -767,12 +762,12 @@ public final class TermBench {
             return value(A_NUMBER, content(left) + content(right));
         }
 
-        private long runCall(Program program, int at, int scope, int inside) {
-            long called = runTerm(program, program.part(at, 0), scope, inside + 1);
+        private long runCall(Program program, int[] marks, int at, int scope, int inside) {
+            long called = runTerm(program, marks, program.part(at, 0), scope, inside + 1);
             if (outcome(called) == SPENT) {
                 return called;
             }
-            long argument = runTerm(program, program.part(at, 1), scope, inside + 1);
+            long argument = runTerm(program, marks, program.part(at, 1), scope, inside + 1);
             if (outcome(argument) == SPENT) {
                 return argument;
             }
@@ -782,7 +777,7 @@ public final class TermBench {
             int function = content(called) % MAX_TERMS;
             int around = content(called) / MAX_TERMS;
             int inner = bind(program.figures[function], argument, around);
-            return runTerm(program, program.part(function, 0), inner, inside + 1);
+            return runTerm(program, marks, program.part(function, 0), inner, inside + 1);
         }
 
         private int bind(int name, long value, int scope) {

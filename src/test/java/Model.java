@@ -427,7 +427,8 @@ final class Model {
         }
         Object second = run(term.parts.get(1), names, others + 1);
         if (term.kind == TermBench.SUM) {
-            return first instanceof Integer && second instanceof Integer ? (Object) ((Integer) first + (Integer) second) : DARK;
+            boolean numbers = first instanceof Integer && second instanceof Integer;
+            return numbers ? (Object) ((Integer) first + (Integer) second) : DARK;
         }
         if (!(first instanceof Closure)) {
             return DARK;

@@ -3,7 +3,8 @@ public final class PromisesTest {
     private static final String LONG_TYPE = "<#".repeat(13) + "#" + ">".repeat(13);
     private static final String LEFT_TYPE = "<".repeat(13) + "#" + "*>".repeat(13);
     /** Doubles its argument 27 times. */
-    private static final String DOUBLER = "[a:<##>[b:<##>[c:<##>c(c(c(999)))]([d:#b(b(b(d)))])]([e:#a(a(a(e)))])]([f:#(f+f)])";
+    private static final String DOUBLER =
+        "[a:<##>[b:<##>[c:<##>c(c(c(999)))]([d:#b(b(b(d)))])]([e:#a(a(a(e)))])]([f:#(f+f)])";
 
     public static void main(String[] args) {
         promise1();
@@ -237,6 +238,7 @@ public final class PromisesTest {
         Keys.is("9 cursor on the SUM", x.kind(), TermBench.SUM);
         Keys.is("9 left part", x.lift(), true);
         Keys.is("9 the program", Keys.text(x), "(a+2)");
+        Keys.is("9 terms", x.terms(), 3);
         Keys.is("9 refused", x.lift(), false);
         Keys.is("9 unchanged", Keys.text(x), "(a+2)");
         TermBench y = Keys.at(Keys.made("{{1:#}:*}"), 0, 0);
@@ -453,6 +455,7 @@ public final class PromisesTest {
         mark("[a:#a]", TermBench.FINE, 0);
         mark("([a:#1]+a)", TermBench.FREE, 1);
         mark("[a:#1](a)", TermBench.FREE, 1);
+        mark("(([a:#1]+2)+(3+(4+a)))", TermBench.FREE, 1, 1, 1);
         mark("1(2)", TermBench.NO_FUNCTION);
         mark("1(2)", TermBench.FINE, 0);
         mark("(1+2)(3)", TermBench.NO_FUNCTION);
@@ -482,6 +485,7 @@ public final class PromisesTest {
         mark("{?:<##>}(1)(2)", TermBench.NO_FUNCTION);
         mark("[a:<##>[a:#a(1)]]", TermBench.NO_FUNCTION, 0, 0);
         mark("[a:#[a:<##>a(1)]]", TermBench.FINE, 0, 0);
+        mark("{{?:<##>}:<<##>#>}", TermBench.MISFIT, 0);
         mark("{{?:<#<*#>>}:<*<##>>}", TermBench.FINE, 0);
         mark("{{?:<#<*#>>}:<*<#<##>>>}", TermBench.MISFIT, 0);
     }
@@ -678,13 +682,20 @@ public final class PromisesTest {
         Keys.is("26 the latest run's", x.units(), 3);
         spentByUnits();
         spentByDepth();
+        TermBench y = Keys.made("[a:#[b:#(a+b)](2)](1)");
+        for (int i = 0; i < 300; i++) {
+            y.run();
+        }
+        Keys.is("26 after many runs", y.units(), 9);
+        Keys.is("26 the result after many runs", y.result(), 3);
     }
 
     /** Functions that are called 50 and 60 times: of these programs one takes 400 units to its end, the other 402. */
     private static void spentByUnits() {
         outcome("[a:<##>[b:<##>[c:<##>c(c(c(c(c(999)))))]([d:#b(b(b(b(b(d)))))])]([e:#a(a(e))])]([f:#({f:#}+1)])",
             TermBench.A_NUMBER, 1049, 400);
-        String spent = "[a:<##>[b:<##>[c:<##>c(c(c(c(999))))]([d:#b(b(b(b(b(d)))))])]([e:#a(a(a({e:#})))])]([f:#(f+1)])";
+        String spent =
+            "[a:<##>[b:<##>[c:<##>c(c(c(c(999))))]([d:#b(b(b(b(b(d)))))])]([e:#a(a(a({e:#})))])]([f:#(f+1)])";
         outcome(spent, TermBench.SPENT, 0, 400);
         TermBench x = Keys.made(spent);
         x.run();
@@ -696,6 +707,9 @@ public final class PromisesTest {
     private static void spentByDepth() {
         outcome("[a:*a(a)]([a:*a(a)])", TermBench.SPENT, 0, 178);
         outcome("([a:*a(a)]([a:*a(a)])+(1+2))", TermBench.SPENT, 0, 175 + 1);
+        outcome("((1+2)+[a:*a(a)]([a:*a(a)]))", TermBench.SPENT, 0, 175 + 1 + 3);
+        outcome("[a:*a(a)]([a:*a(a)])((1+2))", TermBench.SPENT, 0, 175 + 1);
+        outcome("[a:*1]([a:*a(a)]([a:*a(a)]))", TermBench.SPENT, 0, 175 + 2);
         outcome("{[a:*a(a)]([a:*a(a)]):#}", TermBench.SPENT, 0, 175 + 1);
         outcome("[a:*{a(a):*}]([a:*{a(a):*}])", TermBench.SPENT, 0, 3 + 29 * 4 + 1);
     }
