@@ -691,7 +691,7 @@ public final class TermBench {
      * adds to the rows, so a function's scope stays as it was where the function was run.
      */
     private static final class Machine {
-        /** A CALL takes at least three units (its own, the called part's, the argument's) before it binds. */
+        /** Each CALL that binds has three terms run, its called part, its argument and its body, a unit each. */
         static final int MAX_BOUND = MAX_UNITS / 3;
 
         final int[] boundNames = new int[MAX_BOUND + 1];

@@ -1,6 +1,7 @@
 /** Helpers of the tests: programs typed in from their texts, and checks that count what is wrong. */
 final class Keys {
     private static int wrong = 0;
+    private static String test = "";
 
     private final String text;
     private final TermBench bench;
@@ -11,10 +12,14 @@ final class Keys {
         this.text = text;
     }
 
+    /** What is checked from now on is told with the name of this test. */
+    static void begin(String name) {
+        test = name + ": ";
+    }
+
     static void is(String what, long got, long want) {
         if (got != want) {
-            wrong++;
-            System.out.println(what + ": answered " + got + ", due is " + want);
+            tell(what + ": answered " + got + ", due is " + want);
         }
     }
 
@@ -24,9 +29,13 @@ final class Keys {
 
     static void is(String what, String got, String want) {
         if (!got.equals(want)) {
-            wrong++;
-            System.out.println(what + ": answered " + got + ", due is " + want);
+            tell(what + ": answered " + got + ", due is " + want);
         }
+    }
+
+    static void tell(String fault) {
+        wrong++;
+        System.out.println(test + fault);
     }
 
     static void end() {
@@ -80,6 +89,19 @@ final class Keys {
     /** Types a term in at the HOLE at the cursor; the cursor ends on that term. */
     static void enter(TermBench bench, String text) {
         new Keys(bench, text).term();
+    }
+
+    /** About half of an odd number, odd too, so that as much or little less is left beside it and one more. */
+    static int half(int number) {
+        return number / 4 * 2 + 1;
+    }
+
+    /** The text of a term with so many terms, few of them inside one another. */
+    static String wide(int terms, String leaf) {
+        if (terms % 2 == 0) {
+            return "{" + wide(terms - 1, leaf) + ":#}";
+        }
+        return terms == 1 ? leaf : "(" + wide(half(terms), leaf) + "+" + wide(terms - 1 - half(terms), leaf) + ")";
     }
 
     /** The object with the cursor moved down from the program to part path[0], of that to part path[1] .. */

@@ -4,6 +4,7 @@ import java.util.Random;
 /** Runs of calls, chosen by fixed seeds, on a TermBench and on the model; every answer must be the same. */
 public final class ModelTest {
     private static final int RUNS = 4000;
+    private static final int LAST_CALL = 512;
     private static final String[] TYPES = {"*", "#", "<##>", "<**>", "<#*>", "<*#>", "<<##>#>", "<#<##>>", "<<**>*>"};
 
     private static int spentByUnits = 0;
@@ -64,8 +65,11 @@ public final class ModelTest {
             anyCall();
         }
         int words = model.wholeText().length() / 8 + 1;
-        for (int k = 0; k < words && calls < 510 && !wrong; k++) {
+        for (int k = 0; k < words && calls < LAST_CALL && !wrong; k++) {
             same("text(" + k + ")", bench.text(k), model.text(k));
+        }
+        while (calls < LAST_CALL && !wrong) {
+            look();
         }
         return !wrong;
     }

@@ -126,15 +126,8 @@ public final class PromisesTest {
         tooDeep("5 call", false);
     }
 
-    /** A SUM of SUMs with so many terms, an odd number. */
-    private static String wide(int terms) {
-        int rest = terms - 1;
-        int left = rest / 2 % 2 == 1 ? rest / 2 : rest / 2 - 1;
-        return terms == 1 ? "1" : "(" + wide(left) + "+" + wide(rest - left) + ")";
-    }
-
     private static void tooMany(String what, boolean sum) {
-        TermBench x = Keys.made(wide(37));
+        TermBench x = Keys.made(Keys.wide(37, "1"));
         Keys.is(what + " to 39", sum ? x.sum(false) : x.call(false), true);
         Keys.is(what + " 39", x.terms(), 39);
         String text = Keys.text(x);
