@@ -388,10 +388,11 @@ public final class TermsBoundariesTest {
         }
     }
 
-    private static int stepsDown(TermBench x) {
+    /** How many steps lead down from the program, to first parts but for one step, which may be to another. */
+    private static int stepsDown(TermBench x, int step, int part) {
         Keys.at(x);
         int steps = 0;
-        while (steps < 50 && x.down(0)) {
+        while (steps < 50 && x.down(steps == step ? part : 0)) {
             steps++;
         }
         return steps;
@@ -404,7 +405,7 @@ public final class TermsBoundariesTest {
                     String what = name + " at " + place + " of " + deep(kind, 11);
                     TermBench x = Shown.ready(deep(kind, 11), new int[place]);
                     Keys.is(what, edit.test(x), true);
-                    Keys.is(what + " has 12", name.contains("true") ? 11 : stepsDown(x), 11);
+                    Keys.is(what + " has 12", stepsDown(x, place, name.contains("true") ? 1 : 0), 11);
                     int below = kind;
                     Shown.refused(what + " and one more", () -> Shown.ready(deep(below, 12), new int[place]), edit);
                 }
@@ -435,7 +436,7 @@ public final class TermsBoundariesTest {
         Keys.is("lift", x.lift(), true);
         Keys.is("room again", x.sum(false), true);
         Keys.is("room no more", x.sum(false), false);
-        Keys.is("12", stepsDown(x), 11);
+        Keys.is("12", stepsDown(x, 0, 0), 11);
     }
 
     // Typing.
