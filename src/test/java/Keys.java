@@ -75,6 +75,25 @@ final class Keys {
         return type;
     }
 
+    /** A type as it is written in texts; its long where it is no type. */
+    static String written(long type) {
+        StringBuilder signs = new StringBuilder();
+        writeType(type, signs);
+        return type(signs.toString()) == type ? signs.toString() : Long.toString(type);
+    }
+
+    /** Answers what is left of a row of symbols behind the type at its beginning. */
+    private static long writeType(long row, StringBuilder signs) {
+        if ((row & 3) != 3) {
+            signs.append((row & 3) == TermBench.INT ? '#' : '*');
+            return row >>> 2;
+        }
+        signs.append('<');
+        long rest = writeType(writeType(row >>> 2, signs), signs);
+        signs.append('>');
+        return rest;
+    }
+
     /** A new object with a program of this text, the cursor on the program. */
     static TermBench made(String text) {
         TermBench bench = new TermBench();
